@@ -50,7 +50,6 @@ public final class SelfArranger {
         rowLimit = MOST_ROWS;
         budgetPages = FIRST_BUDGET;
         lastWay = NONE;
-        lastCost = 0;
     }
 
     public int insert(int a, int b, int c) throws IllegalArgumentException, UnsupportedOperationException {
@@ -493,7 +492,6 @@ public final class SelfArranger {
 
         private Stretch(Table table) {
             this.table = table;
-            second = NONE;
         }
 
         private void lay(Conditions conditions, int index) {
@@ -610,10 +608,7 @@ public final class SelfArranger {
             if (k == MOST_SHAPES) {
                 return;
             }
-            if (k == count) {
-                shapes[k].weight = 0;
-                count++;
-            }
+            count = Math.max(count, k + 1);
             shapes[k].weight += QUERY_WEIGHT;
             shapes[k].kept.copy(conditions);
         }

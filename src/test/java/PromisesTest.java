@@ -341,10 +341,23 @@ public final class PromisesTest {
         x.where(0, 2, 4, 6);
         x.ask();
         lastIs(x, 0, 6, 0);
+        x.where(0, 2, 8, 9);
+        x.ask();
+        lastIs(x, 0, 5, 0);
         x.where(0, 2, 19, 20);
         x.ask();
         lastIs(x, 0, 6, 5);
+        pagesOfTheEnds();
         entriesByBothColumns();
+    }
+
+    /** The last row lies in leaf 15 below node 3, the first one in leaf 0 below node 0; only the root is both's. */
+    private void pagesOfTheEnds() {
+        SelfArranger x = table(16, 64);
+        ready(x, 0);
+        askFor(x, 63, 4);
+        askFor(x, 0, 3);
+        askFor(x, 63, 0);
     }
 
     /** The rows 0, 16, 32, 48 in this order by their numbers, but the other way round by the second column. */
@@ -419,27 +432,32 @@ public final class PromisesTest {
         markSavesAPage();
     }
 
+    /** Six frames on 64 rows: a value alone touches root, node, leaf and heap page. */
     private void markSavesAPage() {
-        SelfArranger x = new SelfArranger(4);
-        for (int r = 0; r < 64; r++) {
+        SelfArranger x = table(6, 4);
+        // Heap 0 takes frame 0.
+        x.ask();
+        for (int r = 4; r < 64; r++) {
             x.insert(r, 0, 0);
         }
         ready(x, 0);
-        // Root, node 0, leaf 0, heap 0: all frames marked, the hand at the root's.
-        x.where(0, 1, 0, 0);
+        // Root, node 0 and leaf 0 take the frames 1 .. 3; heap 0 is there.
+        askFor(x, 0, 3);
+        // Node 1 and leaf 4 take the frames 4 and 5; all are marked: all marks go, heap 4 takes frame 0.
+        askFor(x, 16, 3);
+        // The root is marked again and so is passed over: node 2, leaf 8 and heap 8 take the frames 2 .. 4.
+        askFor(x, 32, 3);
+        askFor(x, 32, 0);
+        // Node 3 takes frame 5; all are marked: leaf 12 and heap 12 take the frames 0 and 1, where the root was.
+        askFor(x, 48, 3);
+        // The hand is at frame 2: root, node 2, leaf 8 and heap 8 each take the frame of the next one.
+        askFor(x, 32, 4);
+    }
+
+    private void askFor(SelfArranger x, int v, int misses) {
+        x.where(0, 1, v, 0);
         x.ask();
-        lastIs(x, 0, 4, 4);
-        // The root is there; node 1 takes the root's frame; leaf 4 node 0's; heap 4 leaf 0's.
-        x.where(0, 1, 16, 0);
-        x.ask();
-        lastIs(x, 0, 4, 3);
-        // The root takes heap 0's frame; node 1 is there, leaf 4 too, heap 4 too.
-        x.ask();
-        lastIs(x, 0, 4, 1);
-        // All marked, the hand at node 1's: root and node 1 are there, leaf 5 takes node 1's frame, heap 5 leaf 4's.
-        x.where(0, 1, 20, 0);
-        x.ask();
-        lastIs(x, 0, 4, 2);
+        lastIs(x, 0, 4, misses);
     }
 
     private void pagesOutliveTheirIndex() {
@@ -549,7 +567,7 @@ public final class PromisesTest {
         for (int index = 0; index < 9; index++) {
             check.same("without entries", x.index(index, 3), NONE);
         }
-        x.insert(1, 1, 1);
+        x.insert(5, 0, 5);
         x.insert(0, 2, 2);
         x.insert(0, 1, 3);
         x.insert(0, 3, 1);
@@ -557,11 +575,13 @@ public final class PromisesTest {
         x.insert(1, 0, 3);
         x.insert(2, 2, 0);
         x.insert(1, 3, 0);
-        x.insert(1, 3, 0);
-        int[] due = {1, 4, 6, 2, 3, 5, 4, 7, 6};
+        x.insert(3, 1, 0);
+        x.insert(3, 1, 0);
+        int[] due = {1, 0, 6, 2, 3, 5, 4, 7, 8};
         for (int index = 0; index < 9; index++) {
             check.same("index(" + index + ", 3)", x.index(index, 3), due[index]);
         }
+        check.same("the last of 64 rows", table(4, 64).index(2, 3), 63);
     }
 
     private void shapes() {
@@ -580,6 +600,8 @@ public final class PromisesTest {
         x.ask();
         check.same("order and limit are not of the shape", x.shapes(), 8);
         check.same("a shape that is there grows in a full ledger", x.shape(3, 0), 32);
+        check.same("costOf(0) of a full ledger and one heap page", x.costOf(0), 9 * 16);
+        check.same("choose() of a full ledger", x.choose(), 0);
     }
 
     private static void shapeOf(SelfArranger x, int code) {
