@@ -608,7 +608,10 @@ public final class SelfArranger {
             if (k == MOST_SHAPES) {
                 return;
             }
-            count = Math.max(count, k + 1);
+            if (k == count) {
+                count++;
+            }
+            // A shape that is new grows from 0: only shapes of that weight ever go.
             shapes[k].weight += QUERY_WEIGHT;
             shapes[k].kept.copy(conditions);
         }
