@@ -1,3 +1,6 @@
+import java.util.List;
+import java.util.function.Consumer;
+
 /** Counts the answers that are not the ones that are due. */
 final class Check {
     private int wrong = 0;
@@ -21,22 +24,63 @@ final class Check {
     }
 
     void refused(String call, Class<? extends RuntimeException> want, Runnable run) {
-        Class<?> got = null;
-        try {
-            run.run();
-        } catch (RuntimeException e) {
-            got = e.getClass();
-        }
-        if (got != want) {
-            tell(call + " threw " + (got == null ? "nothing" : got.getSimpleName())
-                    + ", due is " + want.getSimpleName());
-        }
+        threw(call, thrownBy(run), want);
+    }
+
+    /** The call is refused in the state, and nothing has changed behind it. */
+    void refused(String call, Class<? extends RuntimeException> want, State state, Consumer<SelfArranger> run) {
+        SelfArranger x = state.make();
+        threw(state + ": " + call, thrownBy(() -> run.accept(x)), want);
+        unchanged(call, state, x);
+    }
+
+    /** The call is taken in the state, and nothing has changed behind it. */
+    void changesNothing(String call, State state, Consumer<SelfArranger> run) {
+        SelfArranger x = state.make();
+        threw(state + ": " + call, thrownBy(() -> run.accept(x)), null);
+        unchanged(call, state, x);
+    }
+
+    void taken(String call, State state, Consumer<SelfArranger> run) {
+        SelfArranger x = state.make();
+        threw(state + ": " + call, thrownBy(() -> run.accept(x)), null);
     }
 
     /** Ends the program: with 1 if an answer was wrong. */
     void end() {
         System.out.println(wrong == 0 ? "all answers are as due" : wrong + " answers are not as due");
         System.exit(wrong == 0 ? 0 : 1);
+    }
+
+    private static Class<?> thrownBy(Runnable run) {
+        try {
+            run.run();
+            return null;
+        } catch (RuntimeException e) {
+            return e.getClass();
+        }
+    }
+
+    private void threw(String call, Class<?> got, Class<?> want) {
+        if (got != want) {
+            tell(call + " threw " + name(got) + ", due is " + name(want));
+        }
+    }
+
+    private static String name(Class<?> thrown) {
+        return thrown == null ? "nothing" : thrown.getSimpleName();
+    }
+
+    private void unchanged(String call, State state, SelfArranger x) {
+        List<String> got = Probe.of(x);
+        List<String> want = Probe.of(state.make());
+        for (int k = 0; k < want.size(); k++) {
+            String seen = k < got.size() ? got.get(k) : "nothing";
+            if (!seen.equals(want.get(k))) {
+                tell(state + ": behind " + call + " is " + seen + ", due is " + want.get(k));
+                return;
+            }
+        }
     }
 
     private void tell(String text) {

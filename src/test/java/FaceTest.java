@@ -90,15 +90,16 @@ public final class FaceTest {
                 publicNames.add(method.getName());
             }
         }
+        ownNames(check, SelfArranger.class, publicNames);
         for (Class<?> inside : SelfArranger.class.getDeclaredClasses()) {
-            for (Method method : inside.getDeclaredMethods()) {
-                check.yes(inside.getSimpleName() + "." + method.getName() + " has a name of its own",
-                        !publicNames.contains(method.getName()));
-            }
+            ownNames(check, inside, publicNames);
         }
-        for (Method method : SelfArranger.class.getDeclaredMethods()) {
-            check.yes(method.getName() + " has a name of its own", Modifier.isPublic(method.getModifiers())
-                    || !publicNames.contains(method.getName()));
+    }
+
+    private static void ownNames(Check check, Class<?> type, Set<String> publicNames) {
+        for (Method method : type.getDeclaredMethods()) {
+            check.yes(type.getSimpleName() + "." + method.getName() + " has a name of its own",
+                    !Modifier.isPrivate(method.getModifiers()) || !publicNames.contains(method.getName()));
         }
     }
 }

@@ -1,13 +1,5 @@
 /** Each promise of the document by itself, with answers that were worked out by hand. */
-public final class PromisesTest {
-    private static final int NONE = SelfArranger.NONE;
-    private static final Class<IndexOutOfBoundsException> OUTSIDE = IndexOutOfBoundsException.class;
-    private static final Class<IllegalArgumentException> ARGUMENT = IllegalArgumentException.class;
-    private static final Class<IllegalStateException> STATE = IllegalStateException.class;
-    private static final Class<UnsupportedOperationException> FULL = UnsupportedOperationException.class;
-
-    private final Check check = new Check();
-
+public final class PromisesTest extends Trial {
     public static void main(String[] args) {
         PromisesTest test = new PromisesTest();
         test.newObject();
@@ -44,37 +36,6 @@ public final class PromisesTest {
         test.check.end();
     }
 
-    /** Row r has the values r, r % 4 and -r. */
-    private static SelfArranger table(int frames, int rows) {
-        SelfArranger x = new SelfArranger(frames);
-        for (int r = 0; r < rows; r++) {
-            x.insert(r, r % 4, -r);
-        }
-        return x;
-    }
-
-    private static void ready(SelfArranger x, int index) {
-        x.build(index);
-        if (x.index(index, 0) == 1) {
-            x.work(64);
-        }
-    }
-
-    private void lastIs(SelfArranger x, int way, int cost, int misses) {
-        check.same("last(0)", x.last(0), way);
-        check.same("last(1)", x.last(1), cost);
-        check.same("last(2)", x.last(2), cost);
-        check.same("last(3)", x.last(3), misses);
-    }
-
-    private void answerIs(SelfArranger x, int... rows) {
-        check.same("ask()", x.ask(), rows.length);
-        for (int k = 0; k < rows.length; k++) {
-            check.same("answer(" + k + ")", x.answer(k), rows[k]);
-        }
-        check.refused("answer behind the last row", OUTSIDE, () -> x.answer(rows.length));
-    }
-
     private void newObject() {
         check.part("promise 1");
         SelfArranger x = new SelfArranger(4);
@@ -107,23 +68,6 @@ public final class PromisesTest {
         fadeChanges(x);
         askForEachColumn(x);
         check.same("choose() of 17 rows", x.choose(), 0b011);
-    }
-
-    private static void fadeChanges(SelfArranger x) {
-        for (int k = 0; k < 20; k++) {
-            x.period();
-        }
-    }
-
-    private static void askForEachColumn(SelfArranger x) {
-        fadeChanges(x);
-        for (int column = 0; column < 3; column++) {
-            x.where(0, 0, 0, 0);
-            x.where(1, 0, 0, 0);
-            x.where(2, 0, 0, 0);
-            x.where(column, 1, -500, 0);
-            x.ask();
-        }
     }
 
     /** On a second way through the heap, a page is missed just if the pool is too small for all. */
@@ -602,12 +546,6 @@ public final class PromisesTest {
         check.same("a shape that is there grows in a full ledger", x.shape(3, 0), 32);
         check.same("costOf(0) of a full ledger and one heap page", x.costOf(0), 9 * 16);
         check.same("choose() of a full ledger", x.choose(), 0);
-    }
-
-    private static void shapeOf(SelfArranger x, int code) {
-        x.where(0, code % 3, 1, 1);
-        x.where(1, code / 3 % 3, 1, 1);
-        x.where(2, code / 9, 1, 1);
     }
 
     private void shape() {
