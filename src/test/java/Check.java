@@ -29,21 +29,18 @@ final class Check {
 
     /** The call is refused in the state, and nothing has changed behind it. */
     void refused(String call, Class<? extends RuntimeException> want, State state, Consumer<SelfArranger> run) {
-        SelfArranger x = state.make();
-        threw(state + ": " + call, thrownBy(() -> run.accept(x)), want);
-        unchanged(call, state, x);
+        threw(state + ": " + call, thrownBy(() -> run.accept(state.make())), want);
+        unchanged(call, state, run);
     }
 
     /** The call is taken in the state, and nothing has changed behind it. */
     void changesNothing(String call, State state, Consumer<SelfArranger> run) {
-        SelfArranger x = state.make();
-        threw(state + ": " + call, thrownBy(() -> run.accept(x)), null);
-        unchanged(call, state, x);
+        taken(call, state, run);
+        unchanged(call, state, run);
     }
 
     void taken(String call, State state, Consumer<SelfArranger> run) {
-        SelfArranger x = state.make();
-        threw(state + ": " + call, thrownBy(() -> run.accept(x)), null);
+        threw(state + ": " + call, thrownBy(() -> run.accept(state.make())), null);
     }
 
     /** Ends the program: with 1 if an answer was wrong. */
@@ -71,9 +68,13 @@ final class Check {
         return thrown == null ? "nothing" : thrown.getSimpleName();
     }
 
-    private void unchanged(String call, State state, SelfArranger x) {
-        List<String> got = Probe.of(x);
-        List<String> want = Probe.of(state.make());
+    private void unchanged(String call, State state, Consumer<SelfArranger> run) {
+        List<String> got = Probe.seen(behind(state, run));
+        List<String> want = Probe.seen(state.make());
+        for (int k = 0; k < Probe.BEGINNINGS; k++) {
+            got.addAll(Probe.hidden(behind(state, run), k));
+            want.addAll(Probe.hidden(state.make(), k));
+        }
         for (int k = 0; k < want.size(); k++) {
             String seen = k < got.size() ? got.get(k) : "nothing";
             if (!seen.equals(want.get(k))) {
@@ -81,6 +82,13 @@ final class Check {
                 return;
             }
         }
+    }
+
+    /** An object in the state, behind the call. */
+    private static SelfArranger behind(State state, Consumer<SelfArranger> run) {
+        SelfArranger x = state.make();
+        thrownBy(() -> run.accept(x));
+        return x;
     }
 
     private void tell(String text) {

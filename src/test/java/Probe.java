@@ -3,12 +3,18 @@ import java.util.List;
 import java.util.function.LongSupplier;
 
 /**
- * All that can be seen of an object, and then, by calls that change it, what only shows later: frames, marks and hand
- * of the pool, the side list. Two objects with the same probe are in the same state, as far as the face tells.
+ * All that can be seen of an object, and, by calls that change it, what only shows later: frames, marks and hand of the
+ * pool, the side list. Two states with the same probes are the same, as far as the face tells.
  */
 final class Probe {
     private static final int ROWS = 64;
     private static final int ANSWERS = 8;
+    private static final int FREE = Integer.MAX_VALUE;
+
+    /** The values of the columns that are asked for: on the heap, or by one of the indexes that are ready. */
+    private static final int[][] QUERIES = {{900, FREE, FREE}, {FREE, 900, FREE}, {FREE, FREE, 900}, {4, FREE, FREE},
+        {FREE, FREE, FREE}, {FREE, 8, FREE}, {2, 2, FREE}};
+    static final int BEGINNINGS = QUERIES.length;
 
     private final SelfArranger x;
     private final List<String> seen = new ArrayList<>();
@@ -17,17 +23,26 @@ final class Probe {
         this.x = x;
     }
 
-    /** Uses the object up: about 300 calls. */
-    static List<String> of(SelfArranger x) {
+    /** What the calls that only tell answer, and then the query and the next row. */
+    static List<String> seen(SelfArranger x) {
         Probe probe = new Probe(x);
         probe.rows();
         probe.latestAsking();
         probe.ledger();
         probe.indexes();
         probe.query();
-        probe.pool();
-        probe.building();
         probe.newRow();
+        return probe.seen;
+    }
+
+    /**
+     * What only shows later: the misses of some queries one after the other, and what is left of a building. Each
+     * beginning, below BEGINNINGS, takes an object by itself, since a query may hide what another one shows.
+     */
+    static List<String> hidden(SelfArranger x, int beginning) {
+        Probe probe = new Probe(x);
+        probe.pool(beginning);
+        probe.building();
         return probe.seen;
     }
 
@@ -94,21 +109,16 @@ final class Probe {
         latestAsking();
     }
 
-    /** Each row alone, then all of them: what is missed tells which pages were where, and the hand. */
-    private void pool() {
+    private void pool(int beginning) {
         x.order(SelfArranger.NONE, ROWS);
-        for (int v = 6; v >= 0; v -= 2) {
-            x.where(0, 1, v, 0);
-            x.where(1, 1, v, 0);
-            x.where(2, 1, v, 0);
+        for (int k = 0; k < 2 * BEGINNINGS; k++) {
+            int[] values = QUERIES[(beginning + k) % BEGINNINGS];
+            for (int c = 0; c < 3; c++) {
+                x.where(c, values[c] == FREE ? 0 : 1, values[c], 0);
+            }
             x.ask();
             see("last(3)", () -> x.last(3));
         }
-        for (int c = 0; c < 3; c++) {
-            x.where(c, 0, 0, 0);
-        }
-        x.ask();
-        see("last(3)", () -> x.last(3));
     }
 
     private void building() {

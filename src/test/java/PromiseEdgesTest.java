@@ -397,15 +397,18 @@ public final class PromiseEdgesTest extends Trial {
         answerIs(x, 12, 11);
         x.order(2, 0);
         answerIs(x);
-        check.same("the limit saves no page", x.last(2), 16);
+        check.same("the limit saves no page of the heap", x.last(2), 16);
         check.same("a query of limit 0 is noted, too", x.shape(1, 0), 4 * 16);
+        ready(x, 0);
+        x.ask();
+        check.same("the limit saves no page of an index", x.last(2), 2 + 2 + 3);
     }
 
     private void answerHasSuchARow() {
         check.part("promise 9, when it has none");
         check.refused("answer(-1)", OUTSIDE, State.NEW, x -> x.answer(-1));
         check.refused("answer(0) before any", OUTSIDE, State.NEW, x -> x.answer(0));
-        between("answer", 0, 3, OUTSIDE, new State[] {State.IN_USE, State.BUILDING}, SelfArranger::answer);
+        between("answer", 0, 1, OUTSIDE, new State[] {State.IN_USE, State.BUILDING}, SelfArranger::answer);
         between("answer", 0, 0, OUTSIDE, new State[] {State.FULL}, SelfArranger::answer);
         SelfArranger x = table(4, 64);
         x.ask();
@@ -603,6 +606,10 @@ public final class PromiseEdgesTest extends Trial {
         check.same("costOf(511) without shapes", x.costOf(511), 9 * 256 * 3);
         check.same("costOf(256)", x.costOf(256), 256 * 3);
         check.same("costOf(511) of a new one", new SelfArranger(4).costOf(511), 0);
+        check.same("costOf(1), no level", table(4, 4).costOf(1), 4 * 4);
+        check.same("costOf(1), one level", table(4, 5).costOf(1), 5 * 4 * 2);
+        deleteRows(x, 0, 64);
+        check.same("costOf(1) without entries", x.costOf(1), 2 * 256);
     }
 
     private void buildIndex() {
@@ -697,24 +704,19 @@ public final class PromiseEdgesTest extends Trial {
             check.same("drop(" + index + ") again", x.drop(index) ? 1 : 0, 0);
         }
         for (State state : ALL) {
-            check.changesNothing("drop(1) of none", state, y -> y.drop(1));
+            check.changesNothing("drop(7) of none", state, y -> y.drop(7));
         }
     }
 
     private void callsThatOnlyTell() {
         check.part("calls that only tell");
         for (State state : ALL) {
-            check.changesNothing("cost, of each way", state, x -> {
-                for (int way = NONE; way < 9; way++) {
-                    x.cost(way);
-                }
-            });
-            check.changesNothing("index, all of it", state, x -> {
-                for (int what = 0; what < 4; what++) {
-                    x.index(0, what);
-                    x.index(8, what);
-                }
-            });
+            check.changesNothing("cost of the heap", state, x -> x.cost(NONE));
+            check.changesNothing("cost of an index", state, x -> x.cost(0));
+            for (int w = 0; w < 4; w++) {
+                int what = w;
+                check.changesNothing("index, " + what, state, x -> x.index(5, what));
+            }
             check.changesNothing("last", state, x -> x.last(3));
             check.changesNothing("shapes", state, SelfArranger::shapes);
             check.changesNothing("changes", state, SelfArranger::changes);

@@ -9,8 +9,8 @@ enum State {
     },
 
     /**
-     * Rows 0 .. 20 without row 4, the indexes 0 and 5 ready, three shapes, the pool in use; the latest answer has four
-     * rows, and the query has been changed since then.
+     * Rows 0 .. 20 without row 4, the indexes 0 and 5 ready, three shapes, all frames marked; the latest answer has
+     * two rows, and the query has been changed since then.
      */
     IN_USE {
         @Override
@@ -23,15 +23,14 @@ enum State {
             x.budget(30);
             x.ask();
             x.period();
-            x.build(0);
-            x.work(64);
-            x.where(0, 1, 2, 0);
+            Trial.ready(x, 0);
+            Trial.ready(x, 5);
+            x.where(1, 1, 2, 0);
             x.ask();
-            x.build(5);
-            x.work(64);
+            x.where(0, 1, 4, 0);
             x.where(1, 2, 0, 2);
             x.order(2, 4);
-            x.where(0, 2, 2, 3);
+            x.ask();
             x.ask();
             x.where(0, 1, 5, 0);
             x.order(1, 5);
@@ -53,21 +52,48 @@ enum State {
         }
     },
 
-    /** There were 64 rows, 0 and 63 are gone; the ledger has eight shapes, and index 8 is ready. */
+    /** There were 64 rows, 0 and 63 are gone; the ledger has eight shapes, index 8 is ready and was the latest way. */
     FULL {
         @Override
         SelfArranger make() {
-            SelfArranger x = new SelfArranger(16);
+            SelfArranger x = new SelfArranger(6);
             for (int r = 0; r < 64; r++) {
                 x.insert(r % 5, r % 9, r);
             }
             x.delete(0);
             x.delete(63);
-            x.build(8);
-            x.work(64);
-            for (int code = 11; code < 19; code++) {
+            Trial.ready(x, 8);
+            x.ask();
+            for (int code = 12; code < 19; code++) {
                 Trial.shapeOf(x, code);
                 x.ask();
+            }
+            return x;
+        }
+    },
+
+    /**
+     * Indexes of one leaf each, so that a query touches a page or two: the frames hold page 2 and the leaves of 1 and
+     * 2, and page 1; the first two are marked, and the hand is at the second one.
+     */
+    SMALL {
+        @Override
+        SelfArranger make() {
+            SelfArranger x = new SelfArranger(4);
+            for (int r = 0; r < 16; r++) {
+                x.insert(r, r, r);
+                if (r % 4 != 0) {
+                    x.delete(r);
+                }
+            }
+            for (int index = 0; index < 3; index++) {
+                Trial.ready(x, index);
+            }
+            int[][] columnAndValue = {{0, 900}, {1, 900}, {2, 900}, {0, 4}, {0, 8}, {1, 900}};
+            for (int[] pair : columnAndValue) {
+                x.where(pair[0], 1, pair[1], 0);
+                x.ask();
+                x.where(pair[0], 0, 0, 0);
             }
             return x;
         }

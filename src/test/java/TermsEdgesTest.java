@@ -22,6 +22,9 @@ public final class TermsEdgesTest extends Trial {
         test.leastIndexOfSeveral();
         test.framesHoldNoneAtFirst();
         test.handBehindTheLastFrame();
+        test.handPassesMarkedFrames();
+        test.levelsAreTouchedDownwards();
+        test.leavesAreTouchedInOrder();
         test.pagesAreKnownByAllOfTheirName();
         test.ledgerWithEightShapes();
         test.fullLedgerKeepsNewConditions();
@@ -434,6 +437,69 @@ public final class TermsEdgesTest extends Trial {
         askForRow(x, 0, 1);
         askForRow(x, 48, 1);
         askForRow(x, 0, 0);
+    }
+
+    /** Three frames; A, B and C are the leaves of the indexes 0, 1 and 2, which have one each; h is heap page 0. */
+    private void handPassesMarkedFrames() {
+        check.part("as long as the hand's frame is marked, the mark goes, and the hand goes to the next frame");
+        SelfArranger x = table(3, 12);
+        deleteRows(x, 1, 12);
+        for (int index = 0; index < 3; index++) {
+            ready(x, index);
+        }
+        leafAlone(x, 0, 1);
+        leafAlone(x, 1, 1);
+        leafAlone(x, 2, 1);
+        // A is there; all marks go, h takes its frame, and the hand is at the frame of B.
+        x.where(2, 0, 0, 0);
+        askForRow(x, 0, 1);
+        // B is marked and so is passed over: A takes the frame of C; the hand is at the frame of h.
+        leafAlone(x, 1, 0);
+        leafAlone(x, 0, 1);
+        // h is marked still, but B is not: C takes its frame.
+        leafAlone(x, 2, 1);
+        x.where(2, 0, 0, 0);
+        askForRow(x, 0, 0);
+        leafAlone(x, 2, 0);
+        leafAlone(x, 1, 1);
+    }
+
+    /** A condition that no row fits, on a column alone, touches the one leaf of the index on it. */
+    private void leafAlone(SelfArranger x, int column, int misses) {
+        for (int c = 0; c < 3; c++) {
+            x.where(c, c == column ? 1 : 0, 900, 0);
+        }
+        x.ask();
+        lastIs(x, column, 1, misses);
+    }
+
+    /** Four frames: row 0 touches the root, node 0, leaf 0 and page 0, row 63 the root and others. */
+    private void levelsAreTouchedDownwards() {
+        check.part("from the highest level down to level 1");
+        SelfArranger x = table(4, 64);
+        ready(x, 0);
+        single(x, 0, 4);
+        // All marks go: node 3, leaf 15 and page 15 take the frames of the root, node 0 and leaf 0.
+        single(x, 63, 3);
+        single(x, 63, 1);
+    }
+
+    /** Four frames; one node, and the entries 0, 1, 2, 16 and 17, 32, 33, 34 in two leaves. */
+    private void leavesAreTouchedInOrder() {
+        check.part("then the leaves of the stretch");
+        SelfArranger x = table(4, 64);
+        ready(x, 0);
+        deleteRows(x, 3, 16);
+        deleteRows(x, 18, 32);
+        deleteRows(x, 35, 64);
+        // Node, leaf 0, leaf 1 and page 4, twice.
+        stretchOf(x, 16, 17, 5, 4);
+        // Page 0 takes the frame of the node; then the node takes that of leaf 0, and leaf 0 that of leaf 1.
+        stretchOf(x, 0, 0, 3, 1);
+        stretchOf(x, 0, 0, 3, 2);
+        // Leaf 1 takes the frame of page 4; all marks go, and page 8 takes that of page 0.
+        stretchOf(x, 33, 33, 3, 2);
+        stretchOf(x, 0, 0, 3, 1);
     }
 
     /** Root, node, leaf and heap page of row 0 all have place 0, and so have those of the other indexes. */
